@@ -1,0 +1,76 @@
+/** What the tests share: answers that are due, refusals that are due, and the exit code. */
+final class Check {
+    interface Call {
+        long answer();
+    }
+
+    static final Class<IndexOutOfBoundsException> NO_SUCH = IndexOutOfBoundsException.class;
+    static final Class<IllegalArgumentException> BAD = IllegalArgumentException.class;
+    static final Class<IllegalStateException> STATE = IllegalStateException.class;
+
+    /** Numbers that are out of every range, beside those next to the edges. */
+    static final int[] FAR = {Integer.MIN_VALUE, -4096, 100000, Integer.MAX_VALUE};
+
+    private static int wrong = 0;
+    private static int checked = 0;
+
+    private Check() {
+    }
+
+    static void is(String what, long due, long got) {
+        checked++;
+        if (due != got) {
+            complain(what + " answered " + got + ", due is " + due);
+        }
+    }
+
+    static void isDouble(String what, double due, double got) {
+        checked++;
+        if (Double.doubleToLongBits(due) != Double.doubleToLongBits(got)) {
+            complain(what + " answered " + got + ", due is " + due);
+        }
+    }
+
+    /** The call throws just that class, not one below it, and changes nothing that the digest sees. */
+    static void refuses(String what, InsideOutWords x, Class<? extends RuntimeException> due, Call call) {
+        checked++;
+        long before = x.digest();
+        try {
+            complain(what + " answered " + call.answer() + ", due is " + due.getSimpleName());
+        } catch (RuntimeException e) {
+            if (e.getClass() != due) {
+                complain(what + " threw " + e + ", due is " + due.getSimpleName());
+            }
+        }
+        if (x.digest() != before) {
+            complain(what + " threw, but changed something");
+        }
+    }
+
+    static void complain(String what) {
+        wrong++;
+        System.out.println(what);
+    }
+
+    static void type(InsideOutWords x, String text) {
+        for (int i = 0; i < text.length(); i++) {
+            x.append(text.charAt(i));
+        }
+    }
+
+    /** Wears the cells of the mask by one each. */
+    static void wearMask(InsideOutWords x, int slot, int mask) {
+        for (int cell = 0; cell < 13; cell++) {
+            if ((mask >> cell & 1) != 0) {
+                x.wear(slot, cell, 1);
+            }
+        }
+    }
+
+    static void end() {
+        System.out.println(checked + " checks, " + wrong + " wrong");
+        if (wrong != 0) {
+            System.exit(1);
+        }
+    }
+}
