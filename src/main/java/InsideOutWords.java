@@ -416,24 +416,27 @@ public final class InsideOutWords {
 
         int wornTogether(int slot) {
             int sum = 0;
+            int first = slot * CELLS;
             for (int cell = 0; cell < CELLS; cell++) {
-                sum += wornAt(slot, cell);
+                sum += worn[first + cell];
             }
             return sum;
         }
 
         int mostWorn(int slot) {
             int most = 0;
+            int first = slot * CELLS;
             for (int cell = 0; cell < CELLS; cell++) {
-                most = Math.max(most, wornAt(slot, cell));
+                most = Math.max(most, worn[first + cell]);
             }
             return most;
         }
 
         int stuckIn(int slot) {
             int mask = 0;
+            int first = slot * CELLS;
             for (int cell = 0; cell < CELLS; cell++) {
-                if (wornAt(slot, cell) >= settings[BEARS]) {
+                if (worn[first + cell] >= settings[BEARS]) {
                     mask |= 1 << cell;
                 }
             }
@@ -549,8 +552,9 @@ public final class InsideOutWords {
         }
 
         private void wearCells(int slot, int mask) {
+            int first = slot * CELLS;
             for (int cell = 0; cell < CELLS; cell++) {
-                worn[slot * CELLS + cell] += (mask >> cell) & 1;
+                worn[first + cell] += (mask >> cell) & 1;
             }
         }
 

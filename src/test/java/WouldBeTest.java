@@ -10,6 +10,7 @@ public final class WouldBeTest {
         lifeChangesNothing();
         share();
         digest();
+        digestOfAShareOfTwo();
         digestOfTheBuffer();
         wrongInputs();
         Check.end();
@@ -89,7 +90,7 @@ public final class WouldBeTest {
         }
     }
 
-    /** All sets of stuck cells, a few at a time, so that no object gets more than 512 calls. */
+    /** Every 13th of all sets of stuck cells, an object for each, so that none gets more than 512 calls. */
     private static void costliestOfStuckSlots() {
         for (int stuck = 0; stuck < 8192; stuck += 13) {
             InsideOutWords x = new InsideOutWords();
@@ -190,6 +191,23 @@ public final class WouldBeTest {
             plain.write(word, 1 << word % 12);
             Check.is("digest with a share above 1", plain.digest(), y.digest());
         }
+    }
+
+    /** A share of 2.0, a power of two, is where its bits go over to the next exponent. */
+    private static void digestOfAShareOfTwo() {
+        InsideOutWords x = new InsideOutWords();
+        PlainModel model = new PlainModel();
+        x.set(0, 1);
+        model.set(0, 1);
+        x.wear(0, 0, 1);
+        model.wear(0, 0, 1);
+        int[] numbers = {1, 31, 31};
+        for (int word = 0; word < 3; word++) {
+            x.write(word, numbers[word]);
+            model.write(word, numbers[word]);
+        }
+        Check.isDouble("twice as many as plainly", 2.0, x.share());
+        Check.is("digest with a share of 2.0", model.digest(), x.digest());
     }
 
     private static void digestOfTheBuffer() {
