@@ -67,6 +67,30 @@ final class Check {
         }
     }
 
+    /**
+     * With setting 0 at 1: the slot of the word 0 and both free slots hold 0 and have the cells 0, 1 and 12 stuck, so
+     * that the word 0 can't be given a number with the bit 0 or 1, nor one that would turn a slot. Six states are saved.
+     */
+    static InsideOutWords barred() {
+        InsideOutWords x = new InsideOutWords();
+        x.set(0, 1);
+        wearMask(x, 0, 1 | 2 | 4096);
+        wearMask(x, 16, 1 | 2 | 4096);
+        wearMask(x, 17, 1 | 2 | 4096);
+        return x;
+    }
+
+    /** Two objects look alike; it takes 236 calls on each. */
+    static void alike(String what, InsideOutWords due, InsideOutWords got) {
+        is(what + ": digest", due.digest(), got.digest());
+        is(what + ": firstError", due.firstError(), got.firstError());
+        for (int slot = 0; slot < 18; slot++) {
+            for (int cell = 0; cell < 13; cell++) {
+                is(what + ": wear of " + slot + ", " + cell, due.wearOf(slot, cell), got.wearOf(slot, cell));
+            }
+        }
+    }
+
     static void end() {
         System.out.println(checked + " checks, " + wrong + " wrong");
         if (wrong != 0) {

@@ -5,6 +5,9 @@ public final class TextsTest {
         clearBuffer();
         firstError();
         firstErrorOfEachCode();
+        firstErrorOfEachNumber();
+        firstErrorWhereATextIsTooLong();
+        asManyPartsAsThereIsRoomFor();
         writeAll();
         writeAllIncomplete();
         writeAllRefused();
@@ -91,6 +94,77 @@ public final class TextsTest {
                 Check.is("firstError of " + starts[i] + (char) code, due, x.firstError());
             }
         }
+    }
+
+    /** "A number, 0 to 4095, without leading zeros": each text of one to five digits, ahead of a "," or at the end. */
+    private static void firstErrorOfEachNumber() {
+        for (int digits = 1; digits <= 5; digits++) {
+            int bound = (int) Math.pow(10, digits);
+            for (int value = 0; value < Math.min(bound, 41000); value++) {
+                String text = Integer.toString(bound + value).substring(1);
+                int wrong = firstWrongDigit(text);
+                InsideOutWords x = new InsideOutWords();
+                Check.type(x, "p=" + text + ",");
+                int due = wrong < digits ? 2 + wrong : 2 + digits + 1;
+                Check.is("firstError of p=" + text + ",", due, x.firstError());
+            }
+        }
+    }
+
+    /** The digits, as many as can begin a number: it is 4095 at most, and after a leading zero there is no other digit. */
+    private static int firstWrongDigit(String digits) {
+        for (int i = 1; i < digits.length(); i++) {
+            if (digits.charAt(0) == '0' || Integer.parseInt(digits.substring(0, i + 1)) > 4095) {
+                return i;
+            }
+        }
+        return digits.length();
+    }
+
+    /** "If no writes as a text, of any length, begin with the characters": also of a length that the buffer can't have. */
+    private static void firstErrorWhereATextIsTooLong() {
+        String[] ends = {",", ";", ";p", ";p="};
+        for (String end : ends) {
+            InsideOutWords x = new InsideOutWords();
+            Check.type(x, completeText(60 - end.length()) + end);
+            Check.is("firstError of a full buffer that ends with " + end, 60, x.firstError());
+            Check.refuses("writeAll of it", x, Check.BAD, () -> x.writeAll());
+            Check.is("the buffer is kept", 60, x.clearBuffer());
+        }
+        InsideOutWords x = new InsideOutWords();
+        Check.type(x, completeText(60));
+        Check.is("firstError of a full buffer that is complete", 60, x.firstError());
+        Check.is("writeAll of it", 29, x.writeAll());
+    }
+
+    private static String completeText(int length) {
+        StringBuilder text = new StringBuilder(length % 2 == 0 ? "a=77" : "a=7");
+        while (text.length() < length) {
+            text.append(",7");
+        }
+        return text.toString();
+    }
+
+    /** "One or more parts with ";" between them", "perhaps with "," and another number, and so on". */
+    private static void asManyPartsAsThereIsRoomFor() {
+        InsideOutWords x = new InsideOutWords();
+        for (int part = 0; part < 15; part++) {
+            Check.type(x, part == 0 ? "" : ";");
+            Check.type(x, (char) ('a' + part) + "=" + part % 10);
+        }
+        Check.is("no error in 15 parts", 59, x.firstError());
+        Check.is("15 parts", 15, x.writeAll());
+        Check.is("the first", 0, x.read(0));
+        Check.is("the last", 4, x.read(14));
+        Check.type(x, "p=0");
+        Check.is("one part", 1, x.writeAll());
+        for (int number = 0; number < 29; number++) {
+            Check.type(x, number == 0 ? "p=9" : ",8");
+        }
+        Check.is("no error in 29 numbers", 59, x.firstError());
+        Check.is("29 numbers", 29, x.writeAll());
+        Check.is("the last number", 8, x.read(15));
+        Check.is("writes of the word", 30, x.word(15, 2));
     }
 
     private static void writeAll() {

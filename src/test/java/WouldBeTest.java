@@ -7,11 +7,13 @@ public final class WouldBeTest {
         costliest();
         costliestOfStuckSlots();
         life();
+        lifeIsAsHammer();
         lifeChangesNothing();
         share();
         digest();
         digestOfAShareOfTwo();
         digestOfTheBuffer();
+        digestByItsList();
         wrongInputs();
         Check.end();
     }
@@ -128,6 +130,29 @@ public final class WouldBeTest {
         Check.is("at most 500", 500, x.life(0, 4095));
     }
 
+    /** "How many writes hammer() would make with 500 times": from none to 500. */
+    private static void lifeIsAsHammer() {
+        int[] bears = {1, 2, 3, 20, 30, 77, 78, 79, 83, 84, 200, 999};
+        for (int setting : bears) {
+            for (int times = 0; times < 4; times++) {
+                InsideOutWords x = new InsideOutWords();
+                x.set(0, setting);
+                x.set(1, times * times);
+                x.write(4, 819);
+                x.wear(16, 3, 1);
+                int due = x.life(4, 100);
+                Check.is("life with " + setting + " and " + times * times, due, x.hammer(4, 100, 500));
+                int rest = x.life(4, 100);
+                Check.is("life of what is left", rest, x.hammer(4, 100, 500));
+            }
+        }
+        InsideOutWords barred = Check.barred();
+        Check.is("none", 0, barred.life(0, 1));
+        Check.is("none by hammer", 0, barred.hammer(0, 1, 500));
+        Check.is("one", 1, barred.life(0, 0));
+        Check.is("one by hammer", 1, barred.hammer(0, 0, 500));
+    }
+
     private static void lifeChangesNothing() {
         InsideOutWords x = new InsideOutWords();
         x.set(0, 3);
@@ -220,6 +245,58 @@ public final class WouldBeTest {
         }
         x.clearBuffer();
         Check.is("digest of a cleared buffer", new PlainModel().digest(), x.digest());
+    }
+
+    /** Each value of the list, in its order, as the object itself answers it; some of them are NONE. */
+    private static void digestByItsList() {
+        digestByItsList("a new object", new InsideOutWords());
+        InsideOutWords x = Check.barred();
+        Check.type(x, "a=1,2~");
+        x.write(9, 3000);
+        x.set(1, 1);
+        x.write(9, 64);
+        for (int cell = 0; cell < 12; cell += 2) {
+            x.wear(1, cell, 1);
+        }
+        Check.is("a write would be refused", InsideOutWords.NONE, x.ifWritten(0, 1365));
+        Check.is("a slot bars a number", InsideOutWords.NONE, x.cost(0, 2730));
+        digestByItsList("an object that was used", x);
+    }
+
+    private static long next(long hash, long value) {
+        return 31 * hash + value;
+    }
+
+    private static void digestByItsList(String what, InsideOutWords x) {
+        long hash = 2969;
+        for (int i = 0; i <= 9; i++) {
+            hash = next(hash, x.count(i));
+        }
+        hash = next(next(hash, x.setting(0)), x.setting(1));
+        for (int word = 0; word < 16; word++) {
+            hash = next(hash, x.read(word));
+            for (int i = 0; i <= 4; i++) {
+                hash = next(hash, x.word(word, i));
+            }
+            hash = next(next(hash, x.ifWritten(word, 1365)), x.costliest(word));
+        }
+        for (int slot = 0; slot < 18; slot++) {
+            for (int i = 0; i <= 5; i++) {
+                hash = next(hash, x.slot(slot, i));
+            }
+            hash = next(hash, x.cost(slot, 2730));
+        }
+        for (int cell = 0; cell < 13; cell++) {
+            hash = next(hash, x.wearOf(0, cell));
+        }
+        hash = next(hash, x.life(0, 819));
+        hash = next(hash, Double.doubleToLongBits(x.share()));
+        String text = x.count(0) == 0 ? "" : "a=1,2~";
+        hash = next(hash, text.length());
+        for (int i = 0; i < text.length(); i++) {
+            hash = next(hash, text.charAt(i));
+        }
+        Check.is("digest of " + what, hash, x.digest());
     }
 
     private static void wrongInputs() {
