@@ -4,6 +4,10 @@ final class Check {
         long answer();
     }
 
+    interface Told {
+        String answer();
+    }
+
     static final Class<IndexOutOfBoundsException> NO_SUCH = IndexOutOfBoundsException.class;
     static final Class<IllegalArgumentException> BAD = IllegalArgumentException.class;
     static final Class<IllegalStateException> STATE = IllegalStateException.class;
@@ -44,6 +48,20 @@ final class Check {
         }
         if (x.digest() != before) {
             complain(what + " threw, but changed something");
+        }
+    }
+
+    /** The answer as a text; of a call that throws "throws " and the name of the exception. */
+    static void same(String what, String due, Told call) {
+        checked++;
+        String got;
+        try {
+            got = call.answer();
+        } catch (RuntimeException e) {
+            got = "throws " + e.getClass().getSimpleName();
+        }
+        if (!due.equals(got)) {
+            complain(what + " answered " + got + ", due is " + due);
         }
     }
 
