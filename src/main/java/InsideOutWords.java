@@ -720,7 +720,8 @@ public final class InsideOutWords {
         }
 
         private boolean takesFirstDigit(int digit) {
-            if (isOutside(digit, 0, 9)) {
+            // Each write takes characters of its own, so the rows always have room; looked at all the same.
+            if (isOutside(digit, 0, 9) || isOutside(parsed, 0, TEXT_LENGTH - 1)) {
                 return false;
             }
             parsedWord[parsed] = word;
@@ -735,14 +736,18 @@ public final class InsideOutWords {
                 stage = code == ',' ? WANTS_NUMBER : WANTS_WORD;
                 return true;
             }
-            int before = parsedNumber[parsed - 1];
+            int last = parsed - 1;
+            if (isOutside(last, 0, TEXT_LENGTH - 1)) {
+                return false;
+            }
+            int before = parsedNumber[last];
             int digit = code - '0';
             int number = before * 10 + digit;
             // A number that begins with 0 ends there, as leading zeros are ruled out.
             if (isOutside(digit, 0, 9) || before == 0 || number > NUMBER_BITS) {
                 return false;
             }
-            parsedNumber[parsed - 1] = number;
+            parsedNumber[last] = number;
             return true;
         }
 
